@@ -619,6 +619,9 @@ public final class PromiseTests {
         dueHeld("16 blunt ones, too", blunt, 0, 1, 2, 4);
         dueMiss("16 blunt ones, too", blunt, 0, 4225, 1);
         dueMiddle("16 blunt ones, too", blunt, 0, 0, 1, 0, 1);
+        TouchBench twice = bench(0, 0, 0, 0, 0, 7, 4, 0, 0, 0, 0, 9, 4, 0, 5, 2, 3, 0);
+        twice.fit(0, 5, 0);
+        dueHeld("16 three places, each by its first point", twice, 0, 0, 2, 5);
         TouchBench low = bench(-300, -300, 0, -296, -300, 0, -298, -297, 0);
         low.fit(0, 5, 0);
         dueMiddle("16 below 0", low, 0, -298, 1, -1795, 6);
