@@ -56,61 +56,35 @@ public final class EdgeTests {
     }
 
     private static void terms() {
-        calls();
-        findings();
-        findingOrder();
-        findingsChangeNothing();
-        parts();
-        fractions();
-        figureKinds();
-        lines();
-        planes();
-        circles();
-        gridTerms();
-        mending();
-        outlines();
-        boxTerms();
-        sheetTerms();
+        each(
+            EdgeTests::calls, EdgeTests::findings, EdgeTests::findingOrder, EdgeTests::findingsChangeNothing,
+            EdgeTests::parts, EdgeTests::fractions, EdgeTests::figureKinds, EdgeTests::lines, EdgeTests::planes,
+            EdgeTests::circles, EdgeTests::gridTerms, EdgeTests::mending, EdgeTests::outlines, EdgeTests::boxTerms,
+            EdgeTests::sheetTerms);
     }
 
     private static void promises() {
-        newObject();
-        point();
-        miss();
-        clear();
-        at();
-        points();
-        mend();
-        grid();
-        off();
-        apart();
-        sheet();
-        put();
-        bits();
-        copy();
-        lay();
-        fit();
-        drop();
-        as();
-        held();
-        missOf();
-        way();
-        middle();
-        ask();
-        level();
-        more();
-        frame();
-        axis();
-        inFrame();
-        corner();
-        open();
-        nearest();
-        far();
-        box();
-        unbox();
-        move();
-        path();
-        told();
+        each(
+            EdgeTests::newObject, EdgeTests::point, EdgeTests::miss, EdgeTests::clear, EdgeTests::at,
+            EdgeTests::points, EdgeTests::mend, EdgeTests::grid, EdgeTests::off, EdgeTests::apart, EdgeTests::sheet,
+            EdgeTests::put, EdgeTests::bits, EdgeTests::copy, EdgeTests::lay, EdgeTests::fit, EdgeTests::drop,
+            EdgeTests::as, EdgeTests::held, EdgeTests::missOf, EdgeTests::way, EdgeTests::middle, EdgeTests::ask,
+            EdgeTests::level, EdgeTests::more, EdgeTests::frame, EdgeTests::axis, EdgeTests::inFrame,
+            EdgeTests::corner, EdgeTests::open, EdgeTests::nearest, EdgeTests::far, EdgeTests::box, EdgeTests::unbox,
+            EdgeTests::move, EdgeTests::path, EdgeTests::told);
+    }
+
+    /** What a call throws is one wrong answer: the tests behind it still have their say. */
+    private static void each(Runnable... tests) {
+        for (Runnable test : tests) {
+            try {
+                test.run();
+            } catch (RuntimeException thrown) {
+                wrong++;
+                askedOfSentence++;
+                System.out.println(sentence + ": a call threw " + thrown);
+            }
+        }
     }
 
     // ---- how the tests are told
@@ -764,6 +738,10 @@ public final class EdgeTests {
         dueHeld("the first place twice", fitted(LINE, 1, 1, 1, 1, 1, 2, 1, 2, 3), 0, 0, 2, 0, 0);
         dueHeld("unlike in x alone", fitted(LINE, 1, 1, 1, 2, 1, 1), 0, 0, 1, 0, 0);
         dueHeld("unlike in y alone", fitted(LINE, 1, 1, 1, 1, 2, 1), 0, 0, 1, 0, 0);
+        TouchBench behindPlane = fitted(PLANE, 0, 0, 0, 10, 0, 200, 5, 3, -100, 5, 1, 300);
+        behindPlane.fit(0, LINE, 0);
+        dueHeld("not by z, behind a PLANE", behindPlane, 0, 0, 1, 2, 0);
+        dueMiss("not by z, behind a PLANE", behindPlane, 0, 9, 1);
 
         says("Term 2", "the CROSS of a point p is dx times (its y less i's) less dy times (its x less i's)");
         dueHeld("to the left is above 0", fitted(LINE, 0, 0, 0, 10, 0, 0, 5, 3, 0), 0, 0, 1, 2, 0);
@@ -784,6 +762,10 @@ public final class EdgeTests {
         // All sides of a square are alike: (0, 1), (0, 3), (1, 2), (2, 3).
         dueHeld("then by k", fitted(LINE, 0, 0, 0, 10, 0, 0, 10, 10, 0, 0, 10, 0), 0, 0, 1, 2, 0);
         dueHeld("three on one line", fitted(LINE, 5, 5, 0, 0, 0, 0, 9, 9, 0), 0, 0, 1, 0, 0);
+        // The CROSS is 1 by each pair: 1 by 10, by 1, by 17.
+        TouchBench close = fitted(LINE, 5, 3, 0, 2, 2, 0, 6, 3, 0);
+        dueHeld("less than 1, the least", close, 0, 1, 2, 0, 1);
+        dueMiss("less than 1, the least", close, 0, 1, 17);
 
         says("Term 2", "HELD: i, k, the first point with the greatest CROSS, the first with the least.");
         dueHeld("two are greatest", fitted(LINE, 0, 0, 0, 10, 0, 0, 3, 3, 0, 7, 3, 0), 0, 0, 1, 2, 0);
@@ -809,6 +791,13 @@ public final class EdgeTests {
         TouchBench crossing = fitted(PLANE, 0, 0, 0, 10, 0, 0, 10, 10, 4, 0, 10, 0);
         dueHeld("pairs of four points", crossing, 0, 0, 2, 1, 3, 0, 1);
         dueMiss("pairs of four points", crossing, 0, 100, 27);
+        // (4,1,2) and (-2,2,-2): NORMAL (-6,4,10), CROSS 0, 2, 2, 0: 4 by 152.
+        TouchBench within = fitted(PLANE, 0, 0, 0, 3, 0, 2, 1, 2, 0, 4, 1, 2);
+        dueHeld("the second pair between the first's numbers", within, 0, 0, 3, 1, 2, 1, 0);
+        dueMiss("the second pair between the first's numbers", within, 0, 1, 38);
+        // The best are 710736 squared by 2422227940: products with another's length do not fit 64 bits.
+        TouchBench wide = fitted(PLANE, -45, 176, -247, 67, 242, -271, 176, -45, -247, -67, 242, -271);
+        dueHeld("far apart", wide, 0, 0, 1, 2, 3, 0, 2);
 
         says("Term 2", "the NORMAL is the cross product of what leads from i to k and of what leads from j to l "
                 + "(x: dy ez - dz ey, and so on round)");
@@ -863,6 +852,21 @@ public final class EdgeTests {
         dueMiddle("a point outside of the pair's", outside, 0, 3, 1, 7, 8);
         TouchBench widest = fitted(CIRCLE, -300, -300, 0, 300, -300, 0, 300, 300, 0, -300, 300, 0);
         dueMiss("the widest", widest, 0, 180000, 1);
+        // The circle of (0,0), (10,0), (5,-1) has no point outside, too; of radius 13, it is not the least.
+        int[][] orders = {{0, 1, 2, 3}, {0, 2, 1, 3}, {2, 0, 1, 3}, {3, 2, 1, 0}};
+        int[] places = {0, 0, 0, 10, 0, 0, 5, -1, 0, 5, 9, 0};
+        for (int[] order : orders) {
+            TouchBench least = new TouchBench();
+            for (int of : order) {
+                least.point(0, places[3 * of], places[3 * of + 1], places[3 * of + 2]);
+            }
+            least.fit(0, CIRCLE, 0);
+            dueMiss("three with a blunt corner have a greater one", least, 0, 2809, 81);
+            dueMiddle("three with a blunt corner have a greater one", least, 0, 5, 1, 28, 9);
+        }
+        TouchBench slight = fitted(CIRCLE, 0, 0, 0, 2, 1, 0, 1, -1, 0);
+        dueMiss("three near together", slight, 0, 25, 18);
+        dueMiddle("three near together", slight, 0, 7, 6, 1, 6);
 
         says("Term 2", "HELD: the first pair (i below k, by i, then k) whose midpoint is its middle, and that lies on it");
         dueHeld("by i", fitted(CIRCLE, 0, 0, 0, 10, 0, 0, 0, 10, 0, 10, 10, 0), 0, 0, 3);
@@ -879,6 +883,8 @@ public final class EdgeTests {
         TouchBench blunt = fitted(CIRCLE, 0, 0, 0, 65, 0, 0, 63, 16, 0, 65, 0, 9, 60, 25, 0, -33, 56, 0, -33, -56, 0);
         dueHeld("blunt, each place once", blunt, 0, 1, 2, 4);
         dueMiss("blunt, each place once", blunt, 0, 4225, 1);
+        TouchBench firstTwice = fitted(CIRCLE, 65, 0, 1, 65, 0, 2, -33, 56, 3, 65, 0, 4, -33, 56, 5, -33, -56, 6);
+        dueHeld("the first place three times", firstTwice, 0, 0, 2, 5);
         // The pair ahead has the middle for its midpoint, but lies inside.
         TouchBench pairInside = fitted(CIRCLE, 1, 0, 0, -1, 0, 0, 65, 0, 0, -33, 56, 0, -33, -56, 0);
         dueHeld("a pair that does not lie on it", pairInside, 0, 2, 3, 4);
@@ -1111,16 +1117,28 @@ public final class EdgeTests {
         dueMove("it begins behind", -1, 11, 5, 5, 30, 5, 5);
         dueMove("it stops ahead, aslant", -1, -9, -9, -9, -1, -1, -1);
         dueMove("it goes by", -1, -1, 8, 5, 3, 20, 5);
-        dueMove("as far as the bounds go", 0, -300, -300, -300, 300, 300, 300);
-        dueMove("as far as the bounds go, beside", -1, -300, -300, -300, 300, 300, 270);
+        dueMoveAt("as far as the bounds go", 0, 0, 0, 0, -300, -300, -300, 300, 300, 300);
+        dueMoveAt("as far as the bounds go, beside", -1, 0, 0, 0, -300, -300, -300, 300, 300, 270);
     }
 
-    /** Of a box from 0, 0, 0 to 10, 10, 10; there and back. */
+    /** Of a box from 0, 0, 0 to 10, 10, 10, and of one elsewhere by ends as far from it. */
     private static void dueMove(String what, long want, int... ends) {
-        TouchBench b = bench(ends);
-        b.box(0, 0, 0, 10, 10, 10);
-        due(what, b.move(0, 0, 1), want);
-        due(what + ", back", b.move(0, 1, 0), want);
+        dueMoveAt(what, want, 0, 0, 0, ends);
+        int[] elsewhere = ends.clone();
+        for (int i = 0; i < ends.length; i += 3) {
+            elsewhere[i] += 100;
+            elsewhere[i + 1] -= 250;
+            elsewhere[i + 2] -= 4;
+        }
+        dueMoveAt(what + ", elsewhere", want, 100, -250, -4, elsewhere);
+    }
+
+    /** There and back. */
+    private static void dueMoveAt(String what, long want, int a, int b, int c, int... ends) {
+        TouchBench bench = bench(ends);
+        bench.box(a, b, c, 10, 10, 10);
+        due(what, bench.move(0, 0, 1), want);
+        due(what + ", back", bench.move(0, 1, 0), want);
     }
 
     private static void sheetTerms() {
@@ -1379,6 +1397,10 @@ public final class EdgeTests {
         TouchBench far = bench(-300, -300, -300);
         far.point(3, 300, 300, 300);
         due("the farthest", far.apart(3, 0, 0), 1080000);
+        TouchBench unlike = bench(7, -5, 3);
+        unlike.point(1, 2, 20, -40);
+        // 5, 25 and 43 apart.
+        due("by x, y and z", unlike.apart(0, 1, 0), 25 + 625 + 1849);
 
         says("10", "BEYOND: no such part (either), or what.");
         dueBounds("part", EdgeTests::stocked, (n, v) -> n.apart(v, 0, 0), 0, 3);
@@ -2175,6 +2197,18 @@ public final class EdgeTests {
         for (int way = 0; way < 3; way++) {
             due("the beginning by way " + way, stocked().inFrame(0, 1, way), 0);
         }
+        // (0, 10, 0) is (-10, 10, 0) away; (0, 0, 0) is (-10, 0, 0) away.
+        due("first, by x, too", stocked().inFrame(0, 3, 0), -10 + 10);
+        due("second, by x, too", stocked().inFrame(0, 3, 1), -4010 - 10);
+        due("third, by x, too", stocked().inFrame(0, 3, 2), -200);
+        due("second, by x alone", stocked().inFrame(0, 0, 1), -4010);
+        // The ways are (1,-1,1), (0,1,1) and (-2,-1,1).
+        TouchBench turned = fitted(PLANE, 0, 0, 0, 0, 2, 2, 2, 2, 0);
+        turned.frame(0, 0, 7, 7, 0, 0);
+        turned.point(1, 3, 5, 11);
+        due("each number in the first", turned.inFrame(1, 0, 0), 3 - 5 + 11);
+        due("each number in the second", turned.inFrame(1, 0, 1), 5 + 11);
+        due("each number in the third", turned.inFrame(1, 0, 2), -6 - 5 + 11);
         TouchBench left = stocked();
         left.clear(0);
         left.point(0, 10, 0, 0);
