@@ -279,6 +279,14 @@ public final class EdgeTests {
     }
 
     private static void findings() {
+        says("Terms", "FINDINGS are answers below -10 to the 18");
+        TouchBench deep = steepFrame();
+        due("a low answer that is none", deep.inFrame(1, 1, 1), -61897262831040000L);
+        due("-1 that is none", deep.move(1, 0, 1), -1);
+        due("none is counted", deep.told(3), 0);
+        due("the highest one is below it", deep.told(-1) < LOW ? 1 : 0, 1);
+        due("it is counted", deep.told(3), 1);
+
         says("Terms", "LOW is -1000000000000000000; LOW - 1 BEYOND, LOW - 2 MISSING, LOW - 3 SIZE, LOW - 4 KIND, "
                 + "LOW - 5 FULL, LOW - 6 NONE, LOW - 7 MISSED.");
         due("BEYOND", stocked().clear(4), -1000000000000000001L);
@@ -2117,6 +2125,9 @@ public final class EdgeTests {
         due("a direction upright to the first", b.frame(0, 0, 7, 7, 0, 0), 1);
         dueAxis("a direction upright to the first", b, 1, 0, 1, 1);
         dueAxis("a direction upright to the first", b, 2, -2, -1, 1);
+        dueAxis("great numbers", steepFrame(), 0, 359401, 359999, 358800);
+        dueAxis("great numbers", steepFrame(), 1, 25618427459999L, -51516432059401L, 26027245199000L);
+        dueAxis("great numbers", steepFrame(), 2, 71879900, -418900, -71580001);
 
         says("26", "BEYOND: no such figure, part, point, or x, y, z not -100 to 100.");
         dueBounds("figure", EdgeTests::stocked, (n, v) -> n.frame(v, 1, 2, 3, 0, 0), 0, 5);
@@ -2235,6 +2246,14 @@ public final class EdgeTests {
         for (int way = 0; way < 3; way++) {
             due("way " + way, bare().inFrame(0, 0, way), NONE);
         }
+    }
+
+    /** The way is (359401, 359999, 358800); it and the second way are about as great as can be. */
+    private static TouchBench steepFrame() {
+        TouchBench b = fitted(PLANE, 300, -300, 300, -300, 300, 299, 299, 299, -300);
+        addPoints(b, 1, 300, -300, 300, -300, 300, -300);
+        b.frame(0, 99, -100, 100, 1, 0);
+        return b;
     }
 
     private static TouchBench widestFrame() {
